@@ -5,8 +5,13 @@ import java.util.NoSuchElementException;
 public final class JarsThatLeak {
     public static final int NONE = -1;
 
+    /** Answers that the document tells by their number alone. */
     private static final int NOT_SO = -2;
-    private static final int TOO_MUCH = -3;
+    private static final int ALL_CAN = -2;
+    private static final int TOO_FEW = -2;
+    private static final int NO_ROOM = -3;
+    private static final int MISSING = -3;
+    private static final int TOO_MANY = -3;
 
     private static final int MOST_JARS = 9;
     private static final int MOST_HOLDS = 60;
@@ -17,6 +22,7 @@ public final class JarsThatLeak {
     private static final int MOST_SEEN = 10;
     private static final int MOST_ROW = 10;
     private static final int MOST_POURINGS = 3;
+    private static final int MOST_ENTRIES = 9;
     private static final int OWNERS = 6;
     private static final int ORIGINS = 7;
     private static final int SPRING_OF_ORDERS = 6;
@@ -133,12 +139,12 @@ public final class JarsThatLeak {
     }
 
     public int sheet(int kind, int n, int f, int step) {
-        if (kind < 0 || kind > 3 || n > MOST_HOLE) {
+        if (kind < 0 || kind > 3 || n > MOST_ENTRIES) {
             return NONE;
         }
         boolean missing = kind == 3;
         if (!missing && n < 0) {
-            return NOT_SO;
+            return TOO_FEW;
         }
         int sum = 0;
         for (int jar = 0; jar < town.count; jar++) {
@@ -146,7 +152,7 @@ public final class JarsThatLeak {
             now.hole[jar] = hole;
             sum += hole;
         }
-        return missing ? TOO_MUCH : sum;
+        return missing ? MISSING : sum;
     }
 
     private static int sheetEntry(int kind, int told) {
@@ -223,8 +229,8 @@ public final class JarsThatLeak {
         }
         trial.copyWater(now);
         int drops = 0;
-        int answer = NOT_SO;
-        for (int i = 0; i < n && answer == NOT_SO; i++) {
+        int answer = ALL_CAN;
+        for (int i = 0; i < n && answer == ALL_CAN; i++) {
             int made = judgeOne(i == 0 ? a : i == 1 ? b : c);
             if (made > 0) {
                 drops += made;
@@ -382,26 +388,23 @@ public final class JarsThatLeak {
         return NOT_SO;
     }
 
+    /** Where a HOLE above is stopped, less comes down at every BELL: none but the JAR's own can help. */
     public int stops(int jar, int v, int n) {
         if (!isJar(jar) || !isLevel(v) || !isSpan(n)) {
             return NONE;
         }
-        int useful = worthStopping(n) & bitsAbove(jar);
-        for (int many = 0; many <= Integer.bitCount(useful); many++) {
-            for (int bits = 0; bits <= useful; bits++) {
-                if (!isChoice(bits, useful, many)) {
-                    continue;
-                }
-                goStopped(bits, n);
-                if (flow.level[jar] >= v) {
-                    clearRow();
-                    tell(bits);
-                    tell(flow.level[jar]);
-                    return many;
-                }
-            }
+        goStopped(0, n);
+        int own = flow.level[jar] >= v ? 0 : worthStopping(n) & 1 << jar;
+        if (own != 0) {
+            goStopped(own, n);
         }
-        return NOT_SO;
+        if (flow.level[jar] < v) {
+            return NOT_SO;
+        }
+        clearRow();
+        tell(own);
+        tell(flow.level[jar]);
+        return own == 0 ? 0 : 1;
     }
 
     public int saves(int k, int n) {
@@ -933,9 +936,9 @@ public final class JarsThatLeak {
             return NONE;
         }
         if (state.level[from] < drops) {
-            return NOT_SO;
+            return TOO_FEW;
         }
-        return town.holds[to] - state.level[to] < drops ? TOO_MUCH : drops;
+        return town.holds[to] - state.level[to] < drops ? NO_ROOM : drops;
     }
 
     private void makePouring(State state, int from, int to, int drops) {
@@ -1698,7 +1701,7 @@ public final class JarsThatLeak {
             enter(NONE, 0);
             for (int i = 0; i < count && i < MOST_STATES; i++) {
                 if (!goOnFrom(i)) {
-                    return TOO_MUCH;
+                    return TOO_MANY;
                 }
             }
             for (int i = 0; i < count; i++) {
@@ -1715,7 +1718,7 @@ public final class JarsThatLeak {
 
         int stepOf(int goal, int i) {
             int at = goal;
-            while (at > 0 && at < count && depth[at] > i + 1) {
+            for (int up = 0; up < MOST_STATES && at > 0 && at < count && depth[at] > i + 1; up++) {
                 at = parent[at];
             }
             return at > 0 && at < count ? pouring[at] : NONE;
