@@ -47,7 +47,7 @@ public final class JarsThatLeak {
     private final Past past = new Past();
     private final State[] kept = new State[KEEPS];
     private final int[] keptJars = new int[KEEPS];
-    private final Signs text = new Signs(TEXT_SIGNS);
+    private final Signs text = new Signs();
     private final TownText townText = new TownText(text, town, now);
     private final Law lawText = new Law();
     private final Steps steps = new Steps();
@@ -96,11 +96,11 @@ public final class JarsThatLeak {
     }
 
     public int law() {
-        int answer = text.length == 0 ? 0 : lawText.check(text);
-        if (answer == 0) {
-            lawText.take(text);
-        }
+        int answer = lawText.read(text);
         text.length = 0;
+        if (answer == 0) {
+            lawText.take();
+        }
         return answer;
     }
 
@@ -1273,27 +1273,16 @@ public final class JarsThatLeak {
 
     /** A text, and how far it is read; what is read behind the first flaw counts for nothing. */
     private static final class Signs {
-        private final int[] signs;
+        private final int[] signs = new int[TEXT_SIGNS];
         int length;
         private int limit;
         private int at;
         private int flaw;
 
-        Signs(int most) {
-            signs = new int[Math.max(0, most)];
-        }
-
         void append(int sign) {
-            if (length < signs.length) {
+            if (length < TEXT_SIGNS) {
                 signs[length] = sign;
                 length++;
-            }
-        }
-
-        void copyFrom(Signs other) {
-            length = 0;
-            for (int i = 0; i < other.length; i++) {
-                append(other.signs[i]);
             }
         }
 
@@ -1336,9 +1325,22 @@ public final class JarsThatLeak {
             return flaw == NONE && at < limit ? signs[at] : NONE;
         }
 
+        boolean sees(int sign) {
+            return peek() == sign;
+        }
+
         boolean seesDigit() {
             int sign = peek();
             return sign >= '0' && sign <= '9';
+        }
+
+        /** The sign that was seen; the reading goes on behind it. */
+        int next() {
+            int sign = peek();
+            if (sign != NONE) {
+                at++;
+            }
+            return sign;
         }
 
         boolean skip(int sign) {
@@ -1486,101 +1488,141 @@ public final class JarsThatLeak {
         }
     }
 
-    /** THE LAW, kept as its text and worked out while it is read. */
+    /** THE LAW, kept as a row of steps, each behind what it works on, so that it is read only once. */
     private static final class Law {
         private static final int MOST_WITHIN = 4;
         private static final char[] LETTERS = {'j', 'b', 't', 'l', 'h', 'c', 'o', 'g', 'w', 'd'};
+        /** Steps below this are NUMBERS; from here on letters, by their place in LETTERS. */
+        private static final int LETTER = 1000;
+        private static final int NEGATION = 2000;
+        /** From here on signs between two things. */
+        private static final int OPERATOR = 3000;
 
-        private final Signs stored = new Signs(LAW_SIGNS);
+        private final int[] draft = new int[LAW_SIGNS];
+        private final int[] steps = new int[LAW_SIGNS];
+        private final int[] stack = new int[LAW_SIGNS];
         final int[] value = new int[10];
+        private int draftLength;
+        private int length;
 
         boolean isNone() {
-            return stored.length == 0;
+            return length == 0;
         }
 
-        int check(Signs text) {
+        /** The law is as it was till take(). */
+        int read(Signs text) {
+            draftLength = 0;
             text.open(LAW_SIGNS);
-            compared(text, 0);
+            if (text.length > 0) {
+                readComparison(text, 0);
+            }
             return text.close(LAW_SIGNS);
         }
 
-        void take(Signs text) {
-            stored.copyFrom(text);
+        void take() {
+            System.arraycopy(draft, 0, steps, 0, LAW_SIGNS);
+            length = draftLength;
         }
 
-        int worth() {
-            stored.open(LAW_SIGNS);
-            return compared(stored, 0);
+        private void write(int step) {
+            if (draftLength < LAW_SIGNS) {
+                draft[draftLength] = step;
+                draftLength++;
+            }
         }
 
-        private int compared(Signs text, int within) {
-            int left = sum(text, within);
-            if (text.skip('<')) {
-                return left < sum(text, within) ? 1 : 0;
+        private void readComparison(Signs text, int within) {
+            readSum(text, within);
+            if (text.sees('<') || text.sees('>') || text.sees('=')) {
+                int sign = text.next();
+                readSum(text, within);
+                write(OPERATOR + sign);
             }
-            if (text.skip('>')) {
-                return left > sum(text, within) ? 1 : 0;
-            }
-            if (text.skip('=')) {
-                return left == sum(text, within) ? 1 : 0;
-            }
-            return left;
         }
 
-        private int sum(Signs text, int within) {
-            int value = product(text, within);
-            for (int i = 0; i < LAW_SIGNS; i++) {
-                if (text.skip('+')) {
-                    value += product(text, within);
-                } else if (text.skip('-')) {
-                    value -= product(text, within);
-                } else {
-                    break;
-                }
+        private void readSum(Signs text, int within) {
+            readProduct(text, within);
+            for (int i = 0; i < LAW_SIGNS && (text.sees('+') || text.sees('-')); i++) {
+                int sign = text.next();
+                readProduct(text, within);
+                write(OPERATOR + sign);
             }
-            return value;
         }
 
-        private int product(Signs text, int within) {
-            int value = signed(text, within);
-            for (int i = 0; i < LAW_SIGNS; i++) {
-                if (text.skip('*')) {
-                    value *= signed(text, within);
-                } else if (text.skip('/')) {
-                    int by = signed(text, within);
-                    value = by == 0 ? 0 : value / by;
-                } else {
-                    break;
-                }
+        private void readProduct(Signs text, int within) {
+            readSigned(text, within);
+            for (int i = 0; i < LAW_SIGNS && (text.sees('*') || text.sees('/')); i++) {
+                int sign = text.next();
+                readSigned(text, within);
+                write(OPERATOR + sign);
             }
-            return value;
         }
 
-        private int signed(Signs text, int within) {
+        private void readSigned(Signs text, int within) {
             boolean minus = false;
             for (int i = 0; i < LAW_SIGNS && text.skip('-'); i++) {
                 minus = !minus;
             }
-            int value = thing(text, within);
-            return minus ? -value : value;
+            readThing(text, within);
+            if (minus) {
+                write(NEGATION);
+            }
         }
 
-        private int thing(Signs text, int within) {
+        private void readThing(Signs text, int within) {
             if (text.seesDigit()) {
-                return text.number(3);
-            }
-            if (within < MOST_WITHIN && text.skip('(')) {
-                int inside = compared(text, within + 1);
+                write(text.number(3));
+            } else if (within < MOST_WITHIN && text.skip('(')) {
+                readComparison(text, within + 1);
                 text.need(')');
-                return inside;
+            } else {
+                readLetter(text);
             }
-            for (int i = 0; i < LETTERS.length && i < value.length; i++) {
+        }
+
+        private void readLetter(Signs text) {
+            for (int i = 0; i < LETTERS.length; i++) {
                 if (text.skip(LETTERS[i])) {
-                    return value[i];
+                    write(LETTER + i);
+                    return;
                 }
             }
             text.failHere();
-            return 0;
+        }
+
+        /** What it is, of a JAR whose letters stand in value. */
+        int worth() {
+            int many = 0;
+            for (int i = 0; i < length; i++) {
+                int step = steps[i];
+                if (step >= OPERATOR && many > 1) {
+                    many--;
+                    stack[many - 1] = joined(step - OPERATOR, stack[many - 1], stack[many]);
+                } else if (step == NEGATION && many > 0) {
+                    stack[many - 1] = -stack[many - 1];
+                } else if (many < LAW_SIGNS) {
+                    stack[many] = valueOf(step);
+                    many++;
+                }
+            }
+            return stack[0];
+        }
+
+        private int valueOf(int step) {
+            int letter = step - LETTER;
+            return letter >= 0 && letter < value.length ? value[letter] : step;
+        }
+
+        private static int joined(int sign, int left, int right) {
+            switch (sign) {
+                case '<': return left < right ? 1 : 0;
+                case '>': return left > right ? 1 : 0;
+                case '=': return left == right ? 1 : 0;
+                case '+': return left + right;
+                case '-': return left - right;
+                case '*': return left * right;
+                default: return right == 0 ? 0 : left / right;
+            }
         }
     }
 
