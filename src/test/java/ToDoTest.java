@@ -176,6 +176,10 @@ public final class ToDoTest {
         JarsThatLeak easy = Check.with("60/59,1,0,0;59/58,1,0,0;58/57,1,0,0;57/56,1,0,0");
         Check.town(easy, "60/31,1,1,0;59/22,1,1,0;58/13,1,1,0;57/4,1,1,0;d0>1*53;d1>0*31");
         Check.due("all are counted first, even if few would do", easy.payoff(), -3);
+        JarsThatLeak just = Check.with("3/1,0,0,0;7/4,0,1,0;13/2,0,1,0;6/4,0,1,0;d0>1*27;d1>0*38");
+        Check.due("3000 states, the one there is counted", just.payoff(), -2);
+        JarsThatLeak over = Check.with("7/7,0,1,0;8/7,0,0,0;15/12,0,1,0;13/2,0,1,0;d0>1*38;d1>0*28");
+        Check.due("3001 states", over.payoff(), -3);
     }
 
     private static void promise28() {
