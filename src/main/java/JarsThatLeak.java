@@ -52,10 +52,10 @@ public final class JarsThatLeak {
     private final Law lawText = new Law();
     private final Steps steps = new Steps();
     private final Sightings sightings = new Sightings();
+    private final Payments payments = new Payments(town);
     private final int[] wayLevels = new int[(MOST_JARS + 1) * MOST_JARS];
     private final int[] told = new int[MOST_ROW];
     private int toldLength;
-    private Payments payments;
 
     public JarsThatLeak() {
         for (int i = 0; i < KEEPS; i++) {
@@ -486,9 +486,6 @@ public final class JarsThatLeak {
     }
 
     public int payoff() {
-        if (payments == null) {
-            payments = new Payments(town);
-        }
         int goal = payments.search(now);
         if (goal < 0) {
             return goal;
@@ -496,7 +493,7 @@ public final class JarsThatLeak {
         int many = payments.stepsTo(goal);
         clearRow();
         for (int i = 0; i < many && i < MOST_ROW; i++) {
-            tell(payments.stepOf(goal, i));
+            tell(payments.stepOf(goal, many - 1 - i));
         }
         return many;
     }
@@ -1720,13 +1717,12 @@ public final class JarsThatLeak {
         private static final int WIDTH = 1 + OWNERS;
         private static final int LEVEL_BITS = 6;
         private static final int DEBT_BITS = 10;
-        private static final int TABLE = 8192;
+        private static final int TABLE = 4096;
 
         private final Town town;
         private final long[] states = new long[(MOST_STATES + 1) * WIDTH];
         private final int[] parent = new int[MOST_STATES];
         private final int[] pouring = new int[MOST_STATES];
-        private final int[] depth = new int[MOST_STATES];
         /** A state's number and 1 more; 0: nothing lies there. */
         private final int[] table = new int[TABLE];
         private int count;
@@ -1740,7 +1736,7 @@ public final class JarsThatLeak {
             Arrays.fill(table, 0);
             count = 0;
             writeStart(state);
-            enter(NONE, 0);
+            enter(0, 0);
             for (int i = 0; i < count && i < MOST_STATES; i++) {
                 if (!goOnFrom(i)) {
                     return TOO_MANY;
@@ -1754,13 +1750,19 @@ public final class JarsThatLeak {
             return NOT_SO;
         }
 
+        /** How many POURINGS lead to a state: the one there is now has number 0. */
         int stepsTo(int goal) {
-            return goal >= 0 && goal < count ? depth[goal] : 0;
+            int many = 0;
+            for (int at = goal; many < MOST_STATES && at > 0 && at < count; at = parent[at]) {
+                many++;
+            }
+            return many;
         }
 
-        int stepOf(int goal, int i) {
+        /** Of the POURINGS that lead to a state, the one with so many others behind it. */
+        int stepOf(int goal, int behind) {
             int at = goal;
-            for (int up = 0; up < MOST_STATES && at > 0 && at < count && depth[at] > i + 1; up++) {
+            for (int i = 0; i < behind && at > 0 && at < count; i++) {
                 at = parent[at];
             }
             return at > 0 && at < count ? pouring[at] : NONE;
@@ -1838,7 +1840,6 @@ public final class JarsThatLeak {
             }
             parent[count] = from;
             pouring[count] = by;
-            depth[count] = from < 0 ? 0 : depth[from] + 1;
             count++;
             table[spot] = count;
             return true;

@@ -35,6 +35,7 @@ public final class LanguageTest {
         classesInside();
         String source = Files.readString(SOURCE, StandardCharsets.ISO_8859_1);
         words(withoutCommentsAndTexts(source));
+        madeThings(withoutCommentsAndTexts(source));
         methodLengths(source);
         imports(source);
         Check.finish();
@@ -121,6 +122,19 @@ public final class LanguageTest {
         }
         Matcher thrown = Pattern.compile("\\bthrow\\b(?! new NoSuchElementException\\(TEXT\\);)").matcher(code);
         Check.due("throws of another form", thrown.find(), false);
+    }
+
+    /** Fields, what the two constructors put into their rows, and what is thrown: nothing else is made. */
+    private static void madeThings(String code) {
+        Pattern field = Pattern.compile("^( {4}| {8})(private )?final [\\w\\[\\]]+ \\w+ = new .*;$");
+        List<String> others = new ArrayList<>();
+        for (String line : code.split("\n")) {
+            boolean made = Pattern.compile("\\bnew\\b").matcher(line).find();
+            if (made && !field.matcher(line).find() && !line.contains("throw new ")) {
+                others.add(line.trim());
+            }
+        }
+        Check.dueText("made elsewhere", others.toString(), "[kept[i] = new State();, states[i] = new State();]");
     }
 
     private static void imports(String source) {
