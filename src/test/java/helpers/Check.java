@@ -6,16 +6,22 @@ final class Check {
     static final int THROWS = Integer.MIN_VALUE;
     private static int wrong = 0;
     private static int looked = 0;
+    private static String where = "";
 
     private Check() {
     }
 
+    /** What is told ahead of each wrong answer from now on. */
+    static void where(String told) {
+        where = told;
+    }
+
+    static int looked() {
+        return looked;
+    }
+
     static void due(String call, long got, long want) {
-        looked++;
-        if (got != want) {
-            wrong++;
-            System.out.println(call + " answered " + got + ", due is " + want);
-        }
+        dueText(call, Long.toString(got), Long.toString(want));
     }
 
     static void due(String call, boolean got, boolean want) {
@@ -26,7 +32,7 @@ final class Check {
         looked++;
         if (!got.equals(want)) {
             wrong++;
-            System.out.println(call + " answered " + got + ", due is " + want);
+            System.out.println(where + call + " answered " + got + ", due is " + want);
         }
     }
 
@@ -92,7 +98,7 @@ final class Check {
         JarsThatLeak x = new JarsThatLeak();
         if (town(x, town) < 0) {
             wrong++;
-            System.out.println("the town " + town + " was refused");
+            System.out.println(where + "the town " + town + " was refused");
         }
         return x;
     }
