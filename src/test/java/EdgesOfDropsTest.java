@@ -2,8 +2,6 @@
 public final class EdgesOfDropsTest {
     private static final int LEAST_INT = Integer.MIN_VALUE;
     private static final int MOST_INT = Integer.MAX_VALUE;
-    private static final int[] NO_JARS = {-1, 3, 9, LEAST_INT, MOST_INT};
-    private static final int[] NO_ORIGINS = {-1, 7, LEAST_INT, MOST_INT};
 
     public static void main(String[] args) {
         promise32();
@@ -39,12 +37,8 @@ public final class EdgesOfDropsTest {
             Twins.idle("share(0, 6)", Twins::rich, x -> x.share(0, 6), 2);
         });
         Edges.edge("NONE: none such.", () -> {
-            for (int jar : NO_JARS) {
-                Twins.idle("jar " + jar, Twins::rich, x -> x.share(jar, 0), -1);
-            }
-            for (int origin : NO_ORIGINS) {
-                Twins.idle("origin " + origin, Twins::rich, x -> x.share(0, origin), -1);
-            }
+            Twins.refused("jar", Twins.NO_JARS, (x, jar) -> x.share(jar, 0));
+            Twins.refused("origin", Twins.NO_ORIGINS, (x, origin) -> x.share(0, origin));
         });
     }
 
@@ -76,12 +70,8 @@ public final class EdgesOfDropsTest {
             Twins.idleButRow("cup(1, 60)", Twins::rich, x -> x.cup(1, 60), 0);
         });
         Edges.edge("NONE: others.", () -> {
-            for (int jar : NO_JARS) {
-                Twins.idle("jar " + jar, Twins::rich, x -> x.cup(jar, 0), -1);
-            }
-            for (int n : new int[] {-1, 61, LEAST_INT, MOST_INT}) {
-                Twins.idle("n " + n, Twins::rich, x -> x.cup(0, n), -1);
-            }
+            Twins.refused("jar", Twins.NO_JARS, (x, jar) -> x.cup(jar, 0));
+            Twins.refused("n", Twins.NO_LEVELS, (x, n) -> x.cup(0, n));
         });
     }
 
@@ -120,9 +110,7 @@ public final class EdgesOfDropsTest {
             Check.row(none, "without jars");
         });
         Edges.edge("NONE: none such.", () -> {
-            for (int origin : NO_ORIGINS) {
-                Twins.idle("origin " + origin, Twins::rich, x -> x.spread(origin), -1);
-            }
+            Twins.refused("origin", Twins.NO_ORIGINS, (x, origin) -> x.spread(origin));
         });
     }
 
@@ -156,12 +144,8 @@ public final class EdgesOfDropsTest {
             Twins.idle("comes(2, 6)", Twins::rich, x -> x.comes(2, 6), -2);
         });
         Edges.edge("NONE: none such.", () -> {
-            for (int jar : NO_JARS) {
-                Twins.idle("jar " + jar, Twins::rich, x -> x.comes(jar, 0), -1);
-            }
-            for (int origin : NO_ORIGINS) {
-                Twins.idle("origin " + origin, Twins::rich, x -> x.comes(0, origin), -1);
-            }
+            Twins.refused("jar", Twins.NO_JARS, (x, jar) -> x.comes(jar, 0));
+            Twins.refused("origin", Twins.NO_ORIGINS, (x, origin) -> x.comes(0, origin));
         });
     }
 
@@ -199,9 +183,7 @@ public final class EdgesOfDropsTest {
             Check.row(nine, "down through nine", 1, 0, 0, 0, 0, 0, 0, 0, 0);
         });
         Edges.edge("NONE: none such.", () -> {
-            for (int jar : NO_JARS) {
-                Twins.idle("jar " + jar, Twins::rich, x -> x.marks(jar), -1);
-            }
+            Twins.refused("jar", Twins.NO_JARS, (x, jar) -> x.marks(jar));
         });
     }
 
@@ -228,9 +210,7 @@ public final class EdgesOfDropsTest {
             tax(Twins.rich(), 200, 15, 7, 0, 4, 0, 0, 2, 2);
         });
         Edges.edge("NONE: another n.", () -> {
-            for (int n : new int[] {-1, 201, LEAST_INT, MOST_INT}) {
-                Twins.idle("n " + n, Twins::rich, x -> x.tax(n), -1);
-            }
+            Twins.refused("n", Twins.NO_BELLS, (x, n) -> x.tax(n));
         });
     }
 
@@ -245,12 +225,8 @@ public final class EdgesOfDropsTest {
             Twins.idle("the oldest", Twins::rich, y -> y.drop(2, 0), 2);
         });
         Edges.edge("NONE: none such.", () -> {
-            for (int jar : NO_JARS) {
-                Twins.idle("jar " + jar, Twins::rich, x -> x.drop(jar, 0), -1);
-            }
-            for (int k : new int[] {-1, 9, 60, LEAST_INT, MOST_INT}) {
-                Twins.idle("k " + k, Twins::rich, x -> x.drop(0, k), -1);
-            }
+            Twins.refused("jar", Twins.NO_JARS, (x, jar) -> x.drop(jar, 0));
+            Twins.refused("k", new int[] {-1, 9, 60, LEAST_INT, MOST_INT}, (x, k) -> x.drop(0, k));
             Twins.idle("of an empty one", Twins::rich, x -> x.drop(1, 0), -1);
             Check.due("behind the last of 60", mixed(60).drop(0, 60), -1);
         });

@@ -1,10 +1,5 @@
 /** Promises 18 to 22, at their edges: how it goes on. */
 public final class EdgesOfGoingOnTest {
-    private static final int LEAST_INT = Integer.MIN_VALUE;
-    private static final int MOST_INT = Integer.MAX_VALUE;
-    private static final int[] NO_JARS = {-1, 3, 9, LEAST_INT, MOST_INT};
-    private static final int[] NO_BELLS = {-1, 201, LEAST_INT, MOST_INT};
-
     public static void main(String[] args) {
         promise18();
         promise18Row();
@@ -13,11 +8,6 @@ public final class EdgesOfGoingOnTest {
         promise21();
         promise22();
         Edges.finish();
-    }
-
-    /** Jar 0 loses 1 at each bell, so many bells long (181 .. 240), and is full till the last 60 of them. */
-    private static JarsThatLeak losing(int bells) {
-        return Check.with("60/60,1,0,1;60/60,1,0,2>0;60/60,1,0,3>1;60/" + (bells - 180) + ",1,0,4>2");
     }
 
     private static void rest(String town, int want, int... row) {
@@ -38,7 +28,7 @@ public final class EdgesOfGoingOnTest {
             rest("60/60,9,0,0", 7, 60, 0);
             rest("9/9,1,0,0;9/9,3,0,0", 9, 18, 0);
             rest("9/9,0,0,0;9/3,1,0,1>0", 3, 3, 1);
-            Check.due("more than 200", losing(240).rest(), 240);
+            Check.due("more than 200", Check.losing(240).rest(), 240);
         });
         Edges.edge("(WAX gone by, too): how many;", () -> {
             JarsThatLeak x = Check.with("9/2,1,0,0;9/0,1,0,0;9/9,0,0,0");
@@ -91,19 +81,17 @@ public final class EdgesOfGoingOnTest {
             Check.due("now, though it gets wet", Check.with("9/0,1,0,0;9/9,1,0,1>0").dry(0), 0);
             Check.due("after 1", Check.with("9/9,9,0,0").dry(0), 1);
             Check.due("after 1, though it gets wet again", Check.with("9/1,1,0,0;9/0,1,0,1>0;9/1,1,0,2>1").dry(0), 1);
-            Check.due("after 200", losing(200).dry(0), 200);
+            Check.due("after 200", Check.losing(200).dry(0), 200);
             Twins.idle("of a jar with wax", Twins::rich, x -> x.dry(2), 7);
             Twins.idle("of a full one", Twins::rich, x -> x.dry(0), 15);
         });
         Edges.edge("-2: not within 200;", () -> {
-            Check.due("after 201", losing(201).dry(0), -2);
+            Check.due("after 201", Check.losing(201).dry(0), -2);
             Check.due("never", Check.with("9/1,0,0,0").dry(0), -2);
             Twins.idle("one without a hole", EdgesOfGoingOnTest::richWithoutAHole, x -> x.dry(0), -2);
         });
         Edges.edge("NONE: none such.", () -> {
-            for (int jar : NO_JARS) {
-                Twins.idle("jar " + jar, Twins::rich, x -> x.dry(jar), -1);
-            }
+            Twins.refused("jar", Twins.NO_JARS, (x, jar) -> x.dry(jar));
         });
     }
 
@@ -116,7 +104,7 @@ public final class EdgesOfGoingOnTest {
     private static void promise20() {
         Edges.promise(20);
         Edges.edge("LEVEL of a JAR n BELLS (0 .. 200) on.", () -> {
-            JarsThatLeak x = losing(200);
+            JarsThatLeak x = Check.losing(200);
             int[][] want = {{0, 60}, {1, 60}, {140, 60}, {141, 59}, {199, 1}, {200, 0}};
             for (int[] w : want) {
                 Check.due("later(0, " + w[0] + ")", x.later(0, w[0]), w[1]);
@@ -127,12 +115,8 @@ public final class EdgesOfGoingOnTest {
             Twins.idle("200 on", Twins::rich, y -> y.later(2, 200), 0);
         });
         Edges.edge("NONE: others.", () -> {
-            for (int jar : NO_JARS) {
-                Twins.idle("jar " + jar, Twins::rich, x -> x.later(jar, 0), -1);
-            }
-            for (int n : NO_BELLS) {
-                Twins.idle("n " + n, Twins::rich, x -> x.later(0, n), -1);
-            }
+            Twins.refused("jar", Twins.NO_JARS, (x, jar) -> x.later(jar, 0));
+            Twins.refused("n", Twins.NO_BELLS, (x, n) -> x.later(0, n));
         });
     }
 
@@ -169,12 +153,8 @@ public final class EdgesOfGoingOnTest {
             flood(Check.with("9/0,1,0,0"), 0, 200, 0, 0);
         });
         Edges.edge("NONE: others.", () -> {
-            for (int jar : NO_JARS) {
-                Twins.idle("jar " + jar, Twins::rich, x -> x.flood(jar, 0), -1);
-            }
-            for (int n : NO_BELLS) {
-                Twins.idle("n " + n, Twins::rich, x -> x.flood(0, n), -1);
-            }
+            Twins.refused("jar", Twins.NO_JARS, (x, jar) -> x.flood(jar, 0));
+            Twins.refused("n", Twins.NO_BELLS, (x, n) -> x.flood(0, n));
         });
     }
 
@@ -193,9 +173,7 @@ public final class EdgesOfGoingOnTest {
             Twins.idle("above(2)", Twins::rich, y -> y.above(2), 4);
         });
         Edges.edge("NONE: none such.", () -> {
-            for (int jar : NO_JARS) {
-                Twins.idle("jar " + jar, Twins::rich, x -> x.above(jar), -1);
-            }
+            Twins.refused("jar", Twins.NO_JARS, (x, jar) -> x.above(jar));
         });
     }
 }

@@ -4,7 +4,6 @@ import java.util.function.Supplier;
 public final class EdgesOfKeptTest {
     private static final int LEAST_INT = Integer.MIN_VALUE;
     private static final int MOST_INT = Integer.MAX_VALUE;
-    private static final int[] NO_NUMBERS = {-1, 2, LEAST_INT, MOST_INT};
 
     public static void main(String[] args) {
         promise45();
@@ -77,9 +76,7 @@ public final class EdgesOfKeptTest {
             Check.due("each by itself: 1", apart.count(1), 1);
         });
         Edges.edge("Refused: others.", () -> {
-            for (int i : NO_NUMBERS) {
-                Twins.idle("number " + i, Twins::rich, x -> Twins.one(x.keep(i)), 0);
-            }
+            Twins.refusedAsFalse("number", Twins.NO_NUMBERS, (x, i) -> x.keep(i));
         });
     }
 
@@ -120,9 +117,7 @@ public final class EdgesOfKeptTest {
             };
             Twins.idle("under 0", one, x -> Twins.one(x.again(0)), 0);
             Check.due("but under 1", one.get().again(1), true);
-            for (int i : NO_NUMBERS) {
-                Twins.idle("under " + i, Twins::rich, x -> Twins.one(x.again(i)), 0);
-            }
+            Twins.refusedAsFalse("under", Twins.NO_NUMBERS, (x, i) -> x.again(i));
             Twins.idle("of a new object", JarsThatLeak::new, x -> Twins.one(x.again(0)), 0);
             Twins.idle("of a new object, 1", JarsThatLeak::new, x -> Twins.one(x.again(1)), 0);
         });
@@ -181,9 +176,7 @@ public final class EdgesOfKeptTest {
             Check.due("of thirty times the most", x.count(8), 29970);
         });
         Edges.edge("NONE for another what.", () -> {
-            for (int what : new int[] {-1, 9, LEAST_INT, MOST_INT}) {
-                Twins.idle("count(" + what + ")", Twins::rich, x -> x.count(what), -1);
-            }
+            Twins.refused("count()", new int[] {-1, 9, LEAST_INT, MOST_INT}, (x, what) -> x.count(what));
         });
     }
 

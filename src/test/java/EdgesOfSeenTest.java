@@ -2,11 +2,6 @@ import java.util.function.Supplier;
 
 /** Promises 39 to 44, at their edges: what was seen. */
 public final class EdgesOfSeenTest {
-    private static final int LEAST_INT = Integer.MIN_VALUE;
-    private static final int MOST_INT = Integer.MAX_VALUE;
-    private static final int[] NO_JARS = {-1, 3, 9, LEAST_INT, MOST_INT};
-    private static final int[] NO_BELLS = {-1, 201, LEAST_INT, MOST_INT};
-
     public static void main(String[] args) {
         promise39();
         promise40();
@@ -16,11 +11,6 @@ public final class EdgesOfSeenTest {
         promise43Ways();
         promise44();
         Edges.finish();
-    }
-
-    /** Jar 0 loses 1 at each bell, so many bells long (181 .. 240), and is full till the last 60 of them. */
-    private static JarsThatLeak losing(int bells) {
-        return Check.with("60/60,1,0,1;60/60,1,0,2>0;60/60,1,0,3>1;60/" + (bells - 180) + ",1,0,4>2");
     }
 
     private static JarsThatLeak tenSeen() {
@@ -34,7 +24,7 @@ public final class EdgesOfSeenTest {
     private static void promise39() {
         Edges.promise(39);
         Edges.edge("LEVEL (0 .. 60) of a JAR n BELLS on (0 .. 200;", () -> {
-            JarsThatLeak x = losing(200);
+            JarsThatLeak x = Check.losing(200);
             Check.due("60, 0 on", x.seen(0, 0, 60), 1);
             Check.due("1, 199 on", x.seen(0, 199, 1), 2);
             Check.due("0, 200 on", x.seen(0, 200, 0), 3);
@@ -56,15 +46,9 @@ public final class EdgesOfSeenTest {
             Check.due("as many as were", x.seen(0, 1, 8), 2);
         });
         Edges.edge("Refused: others,", () -> {
-            for (int jar : NO_JARS) {
-                Twins.idle("jar " + jar, Twins::rich, x -> x.seen(jar, 0, 0), -1);
-            }
-            for (int n : NO_BELLS) {
-                Twins.idle("n " + n, Twins::rich, x -> x.seen(0, n, 0), -1);
-            }
-            for (int level : new int[] {-1, 61, LEAST_INT, MOST_INT}) {
-                Twins.idle("level " + level, Twins::rich, x -> x.seen(0, 0, level), -1);
-            }
+            Twins.refused("jar", Twins.NO_JARS, (x, jar) -> x.seen(jar, 0, 0));
+            Twins.refused("n", Twins.NO_BELLS, (x, n) -> x.seen(0, n, 0));
+            Twins.refused("level", Twins.NO_LEVELS, (x, level) -> x.seen(0, 0, level));
         });
         Edges.edge("10.", () -> {
             JarsThatLeak x = Check.with("9/9,1,0,0");
@@ -118,7 +102,7 @@ public final class EdgesOfSeenTest {
             JarsThatLeak few = Check.with("9/3,5,0,0");
             few.seen(0, 1, 0);
             Check.due("3 and all above", few.holes(0), 1016);
-            JarsThatLeak far = losing(200);
+            JarsThatLeak far = Check.losing(200);
             far.seen(0, 199, 1);
             far.seen(0, 200, 0);
             Check.due("200 bells on", far.holes(0), 2);
@@ -126,9 +110,7 @@ public final class EdgesOfSeenTest {
             Twins.idle("holes(1)", Twins::rich, x -> x.holes(1), 1023);
         });
         Edges.edge("NONE: none such.", () -> {
-            for (int jar : NO_JARS) {
-                Twins.idle("jar " + jar, Twins::rich, x -> x.holes(jar), -1);
-            }
+            Twins.refused("jar", Twins.NO_JARS, (x, jar) -> x.holes(jar));
         });
     }
 
@@ -196,7 +178,7 @@ public final class EdgesOfSeenTest {
             Twins.idle("looks(200)", JarsThatLeak::new, x -> x.looks(200), -2);
         });
         Edges.edge("NONE: another n.", () -> {
-            for (int n : NO_BELLS) {
+            for (int n : Twins.NO_BELLS) {
                 Twins.idle("n " + n, Twins::rich, x -> x.looks(n), -1);
                 Twins.idle("n " + n + " without jars", JarsThatLeak::new, x -> x.looks(n), -1);
             }
@@ -269,7 +251,7 @@ public final class EdgesOfSeenTest {
             secret(nine, 1, 8, 60);
             nine.seen(0, 0, 1);
             secret(nine, 0);
-            JarsThatLeak far = losing(200);
+            JarsThatLeak far = Check.losing(200);
             far.seen(0, 200, 1);
             // one more in jar 3 is there at the end; the others are full
             secret(far, 1, 3, 1);

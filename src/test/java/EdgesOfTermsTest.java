@@ -299,6 +299,11 @@ public final class EdgesOfTermsTest {
             x.bells(200);
             x.bells(200);
             Check.due("then", x.count(1), 400);
+            JarsThatLeak longest = new JarsThatLeak();
+            for (int call = 1; call < 512; call++) {
+                longest.bells(200);
+            }
+            Check.due("the most, by the 512th call", longest.count(1), 102200);
         });
         Edges.edge("A BELL goes by: of the LEVELS as they are, out of each JAR without WAX go as many DROPS as its HOLE is, "
             + "or all, if it has fewer, the oldest first", () -> {

@@ -1,14 +1,5 @@
-import java.util.function.Supplier;
-
 /** Promises 23 to 31, at their edges: what has to be done. */
 public final class EdgesOfToDoTest {
-    private static final int LEAST_INT = Integer.MIN_VALUE;
-    private static final int MOST_INT = Integer.MAX_VALUE;
-    private static final int[] NO_JARS = {-1, 3, 9, LEAST_INT, MOST_INT};
-    private static final int[] NO_BELLS = {-1, 201, LEAST_INT, MOST_INT};
-    private static final int[] NO_LEVELS = {-1, 61, LEAST_INT, MOST_INT};
-    private static final int[] NO_OWNERS = {-1, 6, LEAST_INT, MOST_INT};
-
     public static void main(String[] args) {
         promise23();
         promise23Wrong();
@@ -23,11 +14,6 @@ public final class EdgesOfToDoTest {
         promise31();
         promise31Rows();
         Edges.finish();
-    }
-
-    /** Jar 0 loses 1 at each bell, so many bells long (181 .. 240), and is full till the last 60 of them. */
-    private static JarsThatLeak losing(int bells) {
-        return Check.with("60/60,1,0,1;60/60,1,0,2>0;60/60,1,0,3>1;60/" + (bells - 180) + ",1,0,4>2");
     }
 
     private static void least(JarsThatLeak x, int into, int jar, int v, int n, int want, int... row) {
@@ -64,10 +50,10 @@ public final class EdgesOfToDoTest {
             Check.due("of 10 at most what the hole lets through", x.least(1, 0, 59, 1), -2);
         });
         Edges.edge("n BELLS (0 .. 200) on: how many;", () -> {
-            least(losing(200), 3, 0, 1, 199, 0, 199);
-            least(losing(200), 3, 0, 1, 200, 1, 200);
-            least(losing(200), 3, 3, 60, 0, 40, 0);
-            least(losing(200), 3, 0, 40, 200, 40, 200);
+            least(Check.losing(200), 3, 0, 1, 199, 0, 199);
+            least(Check.losing(200), 3, 0, 1, 200, 1, 200);
+            least(Check.losing(200), 3, 3, 60, 0, 40, 0);
+            least(Check.losing(200), 3, 0, 40, 200, 40, 200);
         });
         Edges.edge("the ROW: LOST till then.", () -> {
             JarsThatLeak x = Check.with("9/9,1,0,0;9/0,9,0,1>0");
@@ -82,20 +68,14 @@ public final class EdgesOfToDoTest {
             Twins.idle("into one below", Twins::rich, x -> x.least(0, 2, 7, 0), -2);
             Twins.idle("more than it holds", Twins::rich, x -> x.least(1, 1, 10, 0), -2);
             Twins.idle("more than goes through", Twins::rich, x -> x.least(1, 0, 60, 200), -2);
-            Check.due("40 are all that it holds more", losing(200).least(3, 0, 40, 200), 40);
-            Check.due("41 would do", losing(200).least(3, 0, 41, 200), -2);
+            Check.due("40 are all that it holds more", Check.losing(200).least(3, 0, 40, 200), 40);
+            Check.due("41 would do", Check.losing(200).least(3, 0, 41, 200), -2);
         });
         Edges.edge("NONE: others.", () -> {
-            for (int jar : NO_JARS) {
-                Twins.idle("into " + jar, Twins::rich, x -> x.least(jar, 0, 0, 0), -1);
-                Twins.idle("of " + jar, Twins::rich, x -> x.least(0, jar, 0, 0), -1);
-            }
-            for (int v : NO_LEVELS) {
-                Twins.idle("v " + v, Twins::rich, x -> x.least(0, 0, v, 0), -1);
-            }
-            for (int n : NO_BELLS) {
-                Twins.idle("n " + n, Twins::rich, x -> x.least(0, 0, 0, n), -1);
-            }
+            Twins.refused("into", Twins.NO_JARS, (x, jar) -> x.least(jar, 0, 0, 0));
+            Twins.refused("of", Twins.NO_JARS, (x, jar) -> x.least(0, jar, 0, 0));
+            Twins.refused("v", Twins.NO_LEVELS, (x, v) -> x.least(0, 0, v, 0));
+            Twins.refused("n", Twins.NO_BELLS, (x, n) -> x.least(0, 0, 0, n));
         });
     }
 
@@ -108,7 +88,7 @@ public final class EdgesOfToDoTest {
     private static void promise24() {
         Edges.promise(24);
         Edges.edge("The fewest HOLES stopped by WAX (for n BELLS or more, whatever THE LAW is),", () -> {
-            JarsThatLeak x = losing(200);
+            JarsThatLeak x = Check.losing(200);
             Check.law(x, "0");
             stops(x, 0, 1, 199, 0, 0, 1);
             stops(x, 0, 1, 200, 1, 1, 60);
@@ -143,15 +123,9 @@ public final class EdgesOfToDoTest {
             Check.due("one without a hole", Check.with("9/3,0,0,0").stops(0, 4, 200), -2);
         });
         Edges.edge("NONE: others.", () -> {
-            for (int jar : NO_JARS) {
-                Twins.idle("jar " + jar, Twins::rich, x -> x.stops(jar, 0, 0), -1);
-            }
-            for (int v : NO_LEVELS) {
-                Twins.idle("v " + v, Twins::rich, x -> x.stops(0, v, 0), -1);
-            }
-            for (int n : NO_BELLS) {
-                Twins.idle("n " + n, Twins::rich, x -> x.stops(0, 0, n), -1);
-            }
+            Twins.refused("jar", Twins.NO_JARS, (x, jar) -> x.stops(jar, 0, 0));
+            Twins.refused("v", Twins.NO_LEVELS, (x, v) -> x.stops(0, v, 0));
+            Twins.refused("n", Twins.NO_BELLS, (x, n) -> x.stops(0, 0, n));
         });
     }
 
@@ -172,7 +146,7 @@ public final class EdgesOfToDoTest {
             saves(nine, 9, 1, 0, 511);
             saves(nine, 9, 200, 0, 511);
             saves(nine, 9, 0, 0, 0);
-            saves(losing(240), 0, 200, 200, 0);
+            saves(Check.losing(240), 0, 200, 200, 0);
             saves(new JarsThatLeak(), 9, 200, 0, 0);
             Twins.idleButRow("saves(9, 200)", Twins::waxed, x -> x.saves(9, 200), 0);
             Twins.idleButRow("saves(0, 0)", Twins::waxed, x -> x.saves(0, 0), 0);
@@ -189,12 +163,8 @@ public final class EdgesOfToDoTest {
             saves(x, 9, 2, 0, 7);
         });
         Edges.edge("NONE: others.", () -> {
-            for (int k : new int[] {-1, 10, LEAST_INT, MOST_INT}) {
-                Twins.idle("k " + k, Twins::rich, x -> x.saves(k, 1), -1);
-            }
-            for (int n : NO_BELLS) {
-                Twins.idle("n " + n, Twins::rich, x -> x.saves(1, n), -1);
-            }
+            Twins.refused("k", Twins.NO_HOLES, (x, k) -> x.saves(k, 1));
+            Twins.refused("n", Twins.NO_BELLS, (x, n) -> x.saves(1, n));
         });
     }
 
@@ -215,7 +185,7 @@ public final class EdgesOfToDoTest {
             Check.due("as it is", x.tax(4), 1);
             Check.due("it stays as it is", x.jar(2, 5), 1);
             place(Check.with("9/9,1,0,0"), 0, 200, 9, -1);
-            place(losing(240), 0, 200, 200, -1);
+            place(Check.losing(240), 0, 200, 200, -1);
             Twins.idleButRow("place(2, 200)", Twins::rich, y -> y.place(2, 200), 15);
             Twins.idleButRow("place(0, 0)", Twins::rich, y -> y.place(0, 0), 0);
         });
@@ -228,12 +198,8 @@ public final class EdgesOfToDoTest {
             place(Check.with("9/9,0,0,0;9/1,1,0,0;9/9,0,0,1;9/9,1,0,5"), 3, 1, 1, 1);
         });
         Edges.edge("NONE: others.", () -> {
-            for (int jar : NO_JARS) {
-                Twins.idle("jar " + jar, Twins::rich, x -> x.place(jar, 0), -1);
-            }
-            for (int n : NO_BELLS) {
-                Twins.idle("n " + n, Twins::rich, x -> x.place(0, n), -1);
-            }
+            Twins.refused("jar", Twins.NO_JARS, (x, jar) -> x.place(jar, 0));
+            Twins.refused("n", Twins.NO_BELLS, (x, n) -> x.place(0, n));
         });
     }
 
@@ -366,10 +332,8 @@ public final class EdgesOfToDoTest {
             pays(x, 3, 2, 1, 0, 0);
         });
         Edges.edge("NONE: none such,", () -> {
-            for (int owner : NO_OWNERS) {
-                Twins.idle("from " + owner, Twins::rich, x -> x.pays(owner, 0), -1);
-                Twins.idle("to " + owner, Twins::rich, x -> x.pays(0, owner), -1);
-            }
+            Twins.refused("from", Twins.NO_OWNERS, (x, owner) -> x.pays(owner, 0));
+            Twins.refused("to", Twins.NO_OWNERS, (x, owner) -> x.pays(0, owner));
         });
         Edges.edge("like ones.", () -> {
             for (int owner = 0; owner < 6; owner++) {
@@ -400,10 +364,8 @@ public final class EdgesOfToDoTest {
             Twins.idle("never", Twins::rich, x -> x.soonest(2, 0), -2);
         });
         Edges.edge("NONE as pays().", () -> {
-            for (int owner : NO_OWNERS) {
-                Twins.idle("from " + owner, Twins::rich, x -> x.soonest(owner, 0), -1);
-                Twins.idle("to " + owner, Twins::rich, x -> x.soonest(0, owner), -1);
-            }
+            Twins.refused("from", Twins.NO_OWNERS, (x, owner) -> x.soonest(owner, 0));
+            Twins.refused("to", Twins.NO_OWNERS, (x, owner) -> x.soonest(0, owner));
             Twins.idle("like ones", Twins::rich, x -> x.soonest(5, 5), -1);
         });
     }
@@ -429,10 +391,8 @@ public final class EdgesOfToDoTest {
             Twins.idle("never", Twins::rich, x -> x.latest(2, 0), -2);
         });
         Edges.edge("NONE as pays().", () -> {
-            for (int owner : NO_OWNERS) {
-                Twins.idle("from " + owner, Twins::rich, x -> x.latest(owner, 0), -1);
-                Twins.idle("to " + owner, Twins::rich, x -> x.latest(0, owner), -1);
-            }
+            Twins.refused("from", Twins.NO_OWNERS, (x, owner) -> x.latest(owner, 0));
+            Twins.refused("to", Twins.NO_OWNERS, (x, owner) -> x.latest(0, owner));
             Twins.idle("like ones", Twins::rich, x -> x.latest(5, 5), -1);
         });
     }

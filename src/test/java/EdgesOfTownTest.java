@@ -423,7 +423,7 @@ public final class EdgesOfTownTest {
             Check.due("a law below 0", Check.jarAt(x, 1, 7), -60);
         });
         Edges.edge("NoSuchElementException: none such,", () -> {
-            for (int jar : new int[] {-1, 3, 9, LEAST_INT, MOST_INT}) {
+            for (int jar : Twins.NO_JARS) {
                 for (int what = 0; what < 8; what++) {
                     int of = what;
                     Twins.idle("jar " + jar + ", what " + what, Twins::rich, x -> Check.jarAt(x, jar, of), Check.THROWS);
@@ -452,12 +452,8 @@ public final class EdgesOfTownTest {
             Check.due("of the one between nothing", x.jar(1, 2), 2);
         });
         Edges.edge("Refused: others.", () -> {
-            for (int v : new int[] {-1, 10, LEAST_INT, MOST_INT}) {
-                Twins.idle("v " + v, Twins::rich, x -> x.hole(0, v), -1);
-            }
-            for (int jar : new int[] {-1, 3, 9, LEAST_INT, MOST_INT}) {
-                Twins.idle("jar " + jar, Twins::rich, x -> x.hole(jar, 5), -1);
-            }
+            Twins.refused("v", Twins.NO_HOLES, (x, v) -> x.hole(0, v));
+            Twins.refused("jar", Twins.NO_JARS, (x, jar) -> x.hole(jar, 5));
         });
     }
 
@@ -481,15 +477,11 @@ public final class EdgesOfTownTest {
             Check.due("of the lowest", x.below(0, -1), true);
         });
         Edges.edge("Refused: others.", () -> {
-            for (int other : new int[] {-2, 3, 9, LEAST_INT, MOST_INT}) {
-                Twins.idle("none such, " + other, Twins::rich, x -> Twins.one(x.below(2, other)), 0);
-            }
+            Twins.refusedAsFalse("none such,", new int[] {-2, 3, 9, LEAST_INT, MOST_INT}, (x, other) -> x.below(2, other));
             Twins.idle("of more", Twins::rich, x -> Twins.one(x.below(0, 1)), 0);
             Twins.idle("itself", Twins::rich, x -> Twins.one(x.below(1, 1)), 0);
-            for (int jar : new int[] {-1, 3, 9, LEAST_INT, MOST_INT}) {
-                Twins.idle("of none such, " + jar, Twins::rich, x -> Twins.one(x.below(jar, 0)), 0);
-                Twins.idle("none of none such, " + jar, Twins::rich, x -> Twins.one(x.below(jar, -1)), 0);
-            }
+            Twins.refusedAsFalse("of none such,", Twins.NO_JARS, (x, jar) -> x.below(jar, 0));
+            Twins.refusedAsFalse("none of none such,", Twins.NO_JARS, (x, jar) -> x.below(jar, -1));
             JarsThatLeak like = Check.with("9/9,1,0,1;9/9,1,0,1");
             Check.due("of the same", like.below(0, 1), false);
             Check.due("of the same, the other way", like.below(1, 0), false);
@@ -574,9 +566,7 @@ public final class EdgesOfTownTest {
             Check.due("without jars", new JarsThatLeak().sheet(3, 0, 0, 0), -3);
         });
         Edges.edge("NONE: another kind, n above 9", () -> {
-            for (int kind : new int[] {-1, 4, LEAST_INT, MOST_INT}) {
-                Twins.idle("kind " + kind, Twins::rich, x -> x.sheet(kind, 3, 5, 1), -1);
-            }
+            Twins.refused("kind", new int[] {-1, 4, LEAST_INT, MOST_INT}, (x, kind) -> x.sheet(kind, 3, 5, 1));
             for (int kind = 0; kind <= 2; kind++) {
                 int of = kind;
                 Twins.idle("10 of kind " + kind, Twins::rich, x -> x.sheet(of, 10, 5, 1), -1);

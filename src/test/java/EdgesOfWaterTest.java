@@ -5,7 +5,6 @@ import java.util.function.ToIntFunction;
 public final class EdgesOfWaterTest {
     private static final int LEAST_INT = Integer.MIN_VALUE;
     private static final int MOST_INT = Integer.MAX_VALUE;
-    private static final int[] NO_JARS = {-1, 3, 9, LEAST_INT, MOST_INT};
 
     public static void main(String[] args) {
         promise10();
@@ -53,15 +52,9 @@ public final class EdgesOfWaterTest {
             Check.due("the sum of LEVELS", x.count(3), 9);
         });
         Edges.edge("NONE: others.", () -> {
-            for (int drops : new int[] {0, -1, 61, LEAST_INT, MOST_INT}) {
-                Twins.idle("drops " + drops, Twins::rich, x -> x.spring(1, 0, drops), -1);
-            }
-            for (int origin : new int[] {-1, 7, LEAST_INT, MOST_INT}) {
-                Twins.idle("origin " + origin, Twins::rich, x -> x.spring(1, origin, 1), -1);
-            }
-            for (int jar : NO_JARS) {
-                Twins.idle("jar " + jar, Twins::rich, x -> x.spring(jar, 0, 1), -1);
-            }
+            Twins.refused("drops", new int[] {0, -1, 61, LEAST_INT, MOST_INT}, (x, drops) -> x.spring(1, 0, drops));
+            Twins.refused("origin", Twins.NO_ORIGINS, (x, origin) -> x.spring(1, origin, 1));
+            Twins.refused("jar", Twins.NO_JARS, (x, jar) -> x.spring(jar, 0, 1));
             Twins.idle("a wrong number for a full jar", Twins::rich, x -> x.spring(0, 0, 61), -1);
         });
     }
@@ -114,11 +107,9 @@ public final class EdgesOfWaterTest {
 
     private static void promise11Wrong() {
         Edges.edge("NONE: none such,", () -> {
-            for (int jar : NO_JARS) {
-                Twins.idle("from " + jar, Twins::rich, x -> x.pour(jar, 1, 1), -1);
-                Twins.idle("to " + jar, Twins::rich, x -> x.pour(0, jar, 1), -1);
-                Twins.idle("from and to " + jar, Twins::rich, x -> x.pour(jar, jar, 1), -1);
-            }
+            Twins.refused("from", Twins.NO_JARS, (x, jar) -> x.pour(jar, 1, 1));
+            Twins.refused("to", Twins.NO_JARS, (x, jar) -> x.pour(0, jar, 1));
+            Twins.refused("from and to", Twins.NO_JARS, (x, jar) -> x.pour(jar, jar, 1));
             Twins.idle("to none such, more than it has", Twins::rich, x -> x.pour(0, 3, 60), -1);
         });
         Edges.edge("like JARS,", () -> {
@@ -129,10 +120,8 @@ public final class EdgesOfWaterTest {
             }
         });
         Edges.edge("fewer than 1.", () -> {
-            for (int drops : new int[] {0, -1, LEAST_INT}) {
-                Twins.idle("drops " + drops, Twins::rich, x -> x.pour(0, 1, drops), -1);
-                Twins.idle("of an empty one " + drops, Twins::rich, x -> x.pour(1, 0, drops), -1);
-            }
+            Twins.refused("drops", new int[] {0, -1, LEAST_INT}, (x, drops) -> x.pour(0, 1, drops));
+            Twins.refused("of an empty one", new int[] {0, -1, LEAST_INT}, (x, drops) -> x.pour(1, 0, drops));
         });
     }
 
@@ -163,14 +152,10 @@ public final class EdgesOfWaterTest {
 
     private static void promise12Wrong() {
         Edges.edge("Refused: none such,", () -> {
-            for (int jar : NO_JARS) {
-                Twins.idle("jar " + jar, Twins::rich, x -> Twins.one(x.wax(jar, 5)), 0);
-            }
+            Twins.refusedAsFalse("jar", Twins.NO_JARS, (x, jar) -> x.wax(jar, 5));
         });
         Edges.edge("another number,", () -> {
-            for (int bells : new int[] {0, -1, 100, LEAST_INT, MOST_INT}) {
-                Twins.idle("bells " + bells, Twins::rich, x -> Twins.one(x.wax(0, bells)), 0);
-            }
+            Twins.refusedAsFalse("bells", new int[] {0, -1, 100, LEAST_INT, MOST_INT}, (x, bells) -> x.wax(0, bells));
         });
         Edges.edge("THE LAW is 0 for it,", () -> {
             Supplier<JarsThatLeak> lawful = () -> {
@@ -228,9 +213,7 @@ public final class EdgesOfWaterTest {
             Check.row(none, "without jars", 0, 0);
         });
         Edges.edge("NONE: another n.", () -> {
-            for (int n : new int[] {-1, 201, LEAST_INT, MOST_INT}) {
-                Twins.idle("n " + n, Twins::rich, x -> x.bells(n), -1);
-            }
+            Twins.refused("n", Twins.NO_BELLS, (x, n) -> x.bells(n));
         });
     }
 
@@ -422,9 +405,7 @@ public final class EdgesOfWaterTest {
             Twins.idleButRow("none", Twins::rich, x -> x.judge(0, 0, 0, 0), -2);
         });
         Edges.edge("NONE: another n.", () -> {
-            for (int n : new int[] {-1, 4, LEAST_INT, MOST_INT}) {
-                Twins.idle("n " + n, Twins::rich, x -> x.judge(n, 109, 109, 109), -1);
-            }
+            Twins.refused("n", new int[] {-1, 4, LEAST_INT, MOST_INT}, (x, n) -> x.judge(n, 109, 109, 109));
         });
     }
 
@@ -565,11 +546,9 @@ public final class EdgesOfWaterTest {
             Check.due("0", x.owes(0, 4), 0);
         });
         Edges.edge("NONE: none such,", () -> {
-            for (int owner : new int[] {-1, 6, LEAST_INT, MOST_INT}) {
-                Twins.idle("from " + owner, Twins::rich, x -> x.owes(owner, 0), -1);
-                Twins.idle("to " + owner, Twins::rich, x -> x.owes(0, owner), -1);
-                Twins.idle("from and to " + owner, Twins::rich, x -> x.owes(owner, owner), -1);
-            }
+            Twins.refused("from", Twins.NO_OWNERS, (x, owner) -> x.owes(owner, 0));
+            Twins.refused("to", Twins.NO_OWNERS, (x, owner) -> x.owes(0, owner));
+            Twins.refused("from and to", Twins.NO_OWNERS, (x, owner) -> x.owes(owner, owner));
         });
         Edges.edge("like ones.", () -> {
             for (int owner = 0; owner < 6; owner++) {

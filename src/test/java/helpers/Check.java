@@ -103,6 +103,11 @@ final class Check {
         return x;
     }
 
+    /** Jar 0 loses 1 at each bell, so many bells long (181 .. 240), and is full till the last 60 of them. */
+    static JarsThatLeak losing(int bells) {
+        return with("60/60,1,0,1;60/60,1,0,2>0;60/60,1,0,3>1;60/" + (bells - 180) + ",1,0,4>2");
+    }
+
     /** All of a jar that jar() tells but the law, with its drops behind. */
     static String jarText(JarsThatLeak x, int jar) {
         StringBuilder all = new StringBuilder();

@@ -1,3 +1,4 @@
+import java.util.Arrays;
 import java.util.List;
 import java.util.function.Function;
 import java.util.function.Supplier;
@@ -8,6 +9,25 @@ import java.util.function.ToIntFunction;
  * are looked at in every way there is, those that change them, too (each on new twins).
  */
 final class Twins {
+    private static final int LEAST_INT = Integer.MIN_VALUE;
+    private static final int MOST_INT = Integer.MAX_VALUE;
+    /** What rich() has not, or what is not in the bounds that the document tells: just outside, and as far as can be. */
+    static final int[] NO_JARS = {-1, 3, 9, LEAST_INT, MOST_INT};
+    static final int[] NO_BELLS = {-1, 201, LEAST_INT, MOST_INT};
+    static final int[] NO_LEVELS = {-1, 61, LEAST_INT, MOST_INT};
+    static final int[] NO_HOLES = {-1, 10, LEAST_INT, MOST_INT};
+    static final int[] NO_OWNERS = {-1, 6, LEAST_INT, MOST_INT};
+    static final int[] NO_ORIGINS = {-1, 7, LEAST_INT, MOST_INT};
+    static final int[] NO_NUMBERS = {-1, 2, LEAST_INT, MOST_INT};
+
+    interface Call {
+        int make(JarsThatLeak x, int number);
+    }
+
+    interface Question {
+        boolean ask(JarsThatLeak x, int number);
+    }
+
     private static final List<Function<JarsThatLeak, String>> LOOKS = List.of(
         Check::stateText, Twins::goneOn, Twins::undone, x -> keptText(x, 0), x -> keptText(x, 1), Twins::seenText,
         x -> x.wax(0, 1) + " " + x.wax(1, 1));
@@ -23,10 +43,24 @@ final class Twins {
         return answer ? 1 : 0;
     }
 
+    /** With each of these numbers the call answers NONE, and changes nothing. */
+    static void refused(String name, int[] wrong, Call call) {
+        for (int number : wrong) {
+            idle(name + " " + number, Twins::rich, x -> call.make(x, number), JarsThatLeak.NONE);
+        }
+    }
+
+    /** With each of these numbers the call answers false, and changes nothing. */
+    static void refusedAsFalse(String name, int[] wrong, Question question) {
+        for (int number : wrong) {
+            idle(name + " " + number, Twins::rich, x -> one(question.ask(x, number)), 0);
+        }
+    }
+
     /** Answers so, and changes nothing. */
     static void idle(String name, Supplier<JarsThatLeak> maker, ToIntFunction<JarsThatLeak> call, int want) {
         idleButRow(name, maker, call, want);
-        same(name + ": the row", maker, call, x -> java.util.Arrays.toString(Check.rowOf(x)));
+        same(name + ": the row", maker, call, x -> Arrays.toString(Check.rowOf(x)));
     }
 
     /** Answers so, and changes nothing but the ROW. */
@@ -40,7 +74,7 @@ final class Twins {
     /** Answers so, and changes nothing but THE TEXT, which is empty then. */
     static void idleButText(String name, Supplier<JarsThatLeak> maker, ToIntFunction<JarsThatLeak> call, int want) {
         idleButRowAndText(name, maker, call, want);
-        same(name + ": the row", maker, call, x -> java.util.Arrays.toString(Check.rowOf(x)));
+        same(name + ": the row", maker, call, x -> Arrays.toString(Check.rowOf(x)));
         JarsThatLeak x = maker.get();
         call.applyAsInt(x);
         Check.due(name + ": the text is empty", x.count(7), 0);
